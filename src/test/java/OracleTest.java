@@ -62,6 +62,9 @@ public final class OracleTest {
     }
 
     private void play() {
+        if (chance.nextInt(3) == 0) {
+            growNumbers();
+        }
         for (int round = 0; round < 3; round++) {
             int nodes = 10 + chance.nextInt(75);
             for (int i = 0; i < nodes; i++) {
@@ -78,6 +81,20 @@ public final class OracleTest {
                 same("clear()", rules.clear(), oracle.clear());
                 look();
             }
+        }
+    }
+
+    // Near the edges of 64 bits, which no NUMBER reaches by itself.
+    private void growNumbers() {
+        int variable = chance.nextInt(8);
+        int start = tell(3, variable, tell(0, any(NUMBERS), 0, 0, 0), 0, 0);
+        int get = tell(2, variable, 0, 0, 0);
+        int twice = tell(3, variable, tell(6, get, get, 0, 0), 0, 0);
+        int doublings = chance.nextInt(64);
+        for (int i = 0; i <= doublings; i++) {
+            int node = i == 0 ? start : twice;
+            same("run(" + node + ")", rules.run(node), oracle.run(node));
+            look();
         }
     }
 

@@ -78,12 +78,14 @@ final class Teller {
 
     int move(int x, int y, int z, int p, int n) { return tell(26, x, y, z, list(p, n)); }
 
-    /** The greatest and least numbers of 64 bits can't be told as one NODE. */
-    int big(int high, int shifts) {
-        int told = number(high);
+    /** A NODE that gets number * 2^shifts out of VARIABLE 5: one NODE can't tell more than 32 bits. */
+    int big(int number, int shifts) {
+        rules.run(set(5, number(number)));
+        int big = get(5);
+        int twice = set(5, plus(big, big));
         for (int i = 0; i < shifts; i++) {
-            told = plus(told, told);
+            rules.run(twice);
         }
-        return told;
+        return big;
     }
 }
