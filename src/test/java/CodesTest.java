@@ -364,6 +364,9 @@ public final class CodesTest {
             comes("CAST to BASE " + base, t, t.cast(base, wide), 0, due[base]);
         }
         comes("CAST of the greatest to float", t, t.cast(6, t.plus(t.big(Integer.MIN_VALUE, 32), t.number(-1))), 0, Long.MAX_VALUE);
+        int odd = t.plus(t.big(1, 53), t.number(3));
+        comes("CAST to double ends even", t, t.cast(7, odd), 0, (1L << 53) + 4);
+        comes("CAST to long does not", t, t.cast(5, odd), 0, (1L << 53) + 3);
         int one = t.number(1);
         int nul = t.nul();
         int leaf = t.instance(11);
