@@ -192,9 +192,15 @@ public final class PromisesTest {
         DUE.is("3 told(2)", t.rules.told(2), 2);
         DUE.is("3 notes()", t.rules.notes(), 1);
         DUE.is("3 note(0)", t.rules.note(0), 6);
+        DUE.is("3 value() of the latest run", t.rules.value(), 0);
+        DUE.is("3 worked() of the latest run", t.rules.worked(), 4);
         DUE.is("3 node after it", t.rules.node(10, NONE, 0, 0, 0), OUTSIDE);
         DUE.is("3 node after it", t.rules.node(2, 3, 0, 0, 0), 0);
         DUE.is("3 run after it", t.rules.run(0), 2);
+        int fail = t.fail();
+        t.rules.run(fail);
+        t.rules.clear();
+        DUE.is("3 where() of the latest run", t.rules.where(), fail);
     }
 
     private static void run() {
@@ -339,9 +345,12 @@ public final class PromisesTest {
         DUE.is("12 no THINGS in what is put there", t.rules.thing(2, 2), 0);
         t.rules.run(t.filled(24, leaf, t.nul()));
         DUE.is("12 a THING as the first ELEMENT", t.rules.thing(5, 2), 1);
+        t.rules.run(t.set(0, leaf));
+        t.rules.run(t.filled(24, t.get(0), t.get(0)));
+        DUE.is("12 the same THING twice", t.rules.thing(8, 2), 2);
         DUE.is("12 type of numbers", t.rules.thing(4, 0), 20);
         DUE.is("12 THINGS among numbers", t.rules.thing(4, 2), 0);
-        for (int wrong : new int[] {-1, 7, 400, Integer.MAX_VALUE, Integer.MIN_VALUE}) {
+        for (int wrong : new int[] {-1, 9, 400, Integer.MAX_VALUE, Integer.MIN_VALUE}) {
             DUE.is("12 thing(" + wrong + ", 0)", t.rules.thing(wrong, 0), OUTSIDE);
         }
         for (int wrong : new int[] {-1, 3, Integer.MAX_VALUE, Integer.MIN_VALUE}) {
