@@ -693,7 +693,8 @@ public final class ArrayRules {
                 case Code.CAST:
                     return work(program.b[node], depth + 1) && cast(node);
                 case Code.IS:
-                    return work(program.b[node], depth + 1) && giveTruth(isThingOf(program.a[node]));
+                    return work(program.b[node], depth + 1) && wantReference(node)
+                        && giveTruth(isThingOf(program.a[node]));
                 case Code.THEN:
                     return work(program.a[node], depth + 1) && work(program.b[node], depth + 1);
                 case Code.IF:
@@ -969,6 +970,10 @@ public final class ArrayRules {
 
         private boolean wantNumber(int node) {
             return kind == A_NUMBER || fail(Failure.MISFIT, node);
+        }
+
+        private boolean wantReference(int node) {
+            return kind != A_NUMBER || fail(Failure.MISFIT, node);
         }
 
         private boolean wantArrayOrNull(int node) {

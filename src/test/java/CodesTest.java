@@ -392,9 +392,26 @@ public final class CodesTest {
         comes("IS NULL an OBJECT", t, t.is(8, t.nul()), 0, 0);
         comes("IS LEAF[] a NAMED[]", t, t.is(25, t.filled(27, leaf)), 0, 1);
         comes("IS int[] an OBJECT", t, t.is(8, t.filled(20)), 0, 1);
-        comes("IS a number an OBJECT", t, t.is(8, t.number(0)), 0, 0);
+        isOfNumbers(t, leaf);
         int fail = t.fail();
         failsAt("IS what FAILS", t, t.is(8, fail), 7, fail);
+    }
+
+    /** A reference is wanted there: a number FAILS 9, whatever the type, once it was worked. */
+    private static void isOfNumbers(Teller t, int leaf) {
+        int noted = t.note(1, t.number(0));
+        for (int type : new int[] {8, 9, 10, 11, 16, 20, 24, 59}) {
+            int is = t.is(type, noted);
+            failsAt("IS a number of type " + type, t, is, 9, is);
+            noted("IS a number of type " + type, t, 1);
+        }
+        // Numbers that are also the numbers of a THING and of NULL.
+        fails("IS 1 an OBJECT", t, t.is(8, t.number(1)), 9);
+        fails("IS -1 an OBJECT", t, t.is(8, t.number(-1)), 9);
+        fails("IS a LENGTH an OBJECT", t, t.is(8, t.length(t.filled(27, leaf))), 9);
+        fails("IS an IS an OBJECT", t, t.is(8, t.is(8, leaf)), 9);
+        fails("IS an ELEMENT of int an OBJECT", t, t.is(8, t.at(t.filled(20, t.number(3)), t.number(0))), 9);
+        comes("IS a number, caught", t, t.caught(t.is(8, t.number(0)), t.get(3), 3), 0, 9);
     }
 
     private static void same() {

@@ -177,6 +177,14 @@ final class Oracle {
         return (Long) value;
     }
 
+    private Object reference(int part, int node) {
+        Object value = work(part);
+        if (value instanceof Long) {
+            throw fails(9, node);
+        }
+        return value;
+    }
+
     private Object array(int part, int node) {
         Object value = work(part);
         if (value != null && !value.getClass().isArray()) {
@@ -237,7 +245,7 @@ final class Oracle {
             }
             case 17: return copy(arrayNotNull(a, n), n);
             case 18: return cast(classOf(a), work(b), n);
-            case 19: return classOf(a).isInstance(notLong(work(b))) ? 1L : 0L;
+            case 19: return classOf(a).isInstance(reference(b, n)) ? 1L : 0L;
             case 20: return same(work(a), work(b), n);
             case 21: return each(arrayNotNull(a, n), b, c);
             case 22: return varied(a, b, n);
@@ -247,10 +255,6 @@ final class Oracle {
             case 26: return move(node, n);
             default: throw new IllegalStateException("code " + node[0]);
         }
-    }
-
-    private static Object notLong(Object value) {
-        return value instanceof Long ? null : value;
     }
 
     private long over(long x, long y, int n) {
