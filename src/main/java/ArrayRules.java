@@ -370,7 +370,7 @@ public final class ArrayRules {
         }
 
         boolean isArray(int thing) {
-            return isThing(thing) && lengths[thing] != NONE;
+            return thing >= 0 && thing < things && lengths[thing] != NONE;
         }
 
         boolean hasElement(int thing, int i) {
@@ -395,7 +395,7 @@ public final class ArrayRules {
         }
 
         int kindAt(int thing, int i) {
-            if (holdsNumbers(thing)) {
+            if (Types.isOfNumbers(typeOfElements(thing))) {
                 return A_NUMBER;
             }
             return amountAt(thing, i) == NONE ? A_NULL : A_THING;
@@ -440,7 +440,7 @@ public final class ArrayRules {
                 return NONE;
             }
             int made = make(type, length, length);
-            if (made != NONE && !holdsNumbers(made)) {
+            if (made != NONE && !Types.isOfNumbers(type - Types.DIM)) {
                 for (int i = 0; i < length; i++) {
                     amounts[starts[made] + i] = NONE;
                 }
@@ -948,7 +948,7 @@ public final class ArrayRules {
             if (!wantAddable(node, array)) {
                 return false;
             }
-            giveElement(array, i);
+            giveNumber(heap.amountAt(array, i));
             heap.putSum(array, i, amount, heap.realAt(array, i), 1);
             return true;
         }
